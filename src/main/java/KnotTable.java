@@ -1186,7 +1186,7 @@ public final class KnotTable {
             int known = 1;
             queue[0] = from;
             partOf[from] = parts;
-            for (int done = 0; done < known; done++) {
+            for (int done = 0; done < known && done < MOST_CROSSINGS; done++) {
                 for (int i = 0; i < 4; i++) {
                     int c = mate[4 * queue[done] + i] >> 2;
                     if (partOf[c] < 0) {
@@ -1944,7 +1944,7 @@ public final class KnotTable {
 
         /** Whether what is assigned so far can be followed along every ARC without a contradiction. */
         private boolean spreads(int[] mates, int[] others) {
-            for (int done = 0; done < known; done++) {
+            for (int done = 0; done < known && done < MOST_CROSSINGS; done++) {
                 int c = queue[done];
                 for (int i = 0; i < 4; i++) {
                     int to = mates[4 * c + i];

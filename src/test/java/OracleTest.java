@@ -297,6 +297,65 @@ public final class OracleTest {
         return !failed;
     }
 
+    /** A knot with kinks and pokes up to 12 CROSSINGS: a SEARCH that comes to 100 STATES. */
+    private boolean runGreatSearch() {
+        typeRow(KNOTS[4 + upTo(6)]);
+        for (int k = 0; k < 40; k++) {
+            int n = crossingsOf(0);
+            if (n >= 12) {
+                break;
+            }
+            int a = upTo(4 * n);
+            boolean poke = n < 11 && upTo(3) == 0;
+            call("does", 0, call("move", poke ? 1 : 0, a, poke ? regionMate(0, a, n) : upTo(4), upTo(2)));
+        }
+        call("search", 0, upTo(400));
+        for (int k = 0; k < 6; k++) {
+            call("goOn", upTo(300));
+            for (int what = 0; what < 4; what++) {
+                call("searched", what);
+            }
+        }
+        int f = (int) call("fewer");
+        askRows();
+        call("check", 0);
+        call("digest");
+        call("goOn", 5000);
+        call("searched", 0);
+        call("fewer");
+        call("digest");
+        if (crossingsOf(f) <= 10) {
+            call("same", 0, f, 5000);
+            call("searched", 3);
+            askRows();
+        }
+        return !failed;
+    }
+
+    /** Pictures of up to 40 CROSSINGS: joined, moved, seen from behind. */
+    private boolean runGreatPictures() {
+        for (int k = 0; k < 4; k++) {
+            typeRow(KNOTS[4 + upTo(7)]);
+        }
+        while (calls < MOST_CALLS && !failed) {
+            int p = upTo((int) oracle.call("count", 0));
+            int q = upTo((int) oracle.call("count", 0));
+            int n = crossingsOf(p);
+            int a = near(4 * n);
+            switch (upTo(9)) {
+                case 0: case 1: call("join", p, a, q, near(4 * crossingsOf(q))); break;
+                case 2: call("does", p, call("move", 1, a, regionMate(p, upTo(4 * n + 1), n), upTo(2))); break;
+                case 3: call("does", p, call("move", 0, a, upTo(4), 0)); break;
+                case 4: call("undoes", p, call("move", upTo(3), a, 0, 0)); break;
+                case 5: call("does", p, call("move", 3, a, 1 << (upTo(4 * n + 1) / 4), 0)); break;
+                case 6: call("like", p, q); call("turn", p); call("mirror", q); call("undo", p); break;
+                case 7: call("gauss", p); call("ofGauss"); call("like", p, oracle.call("count", 0) - 1); break;
+                default: askAll(p); call("colours", p, 3); call("sign", p, near(n)); call("does", p, call("move", 4, near(n), upTo(2), 0)); break;
+            }
+        }
+        return !failed;
+    }
+
     public static void main(String[] args) {
         for (Method method : KnotTable.class.getDeclaredMethods()) {
             METHODS.put(method.getName(), method);
@@ -310,6 +369,10 @@ public final class OracleTest {
             if (!as) {
                 break;
             }
+        }
+        for (long seed = from; seed < from + runs / 10; seed++) {
+            due.holds("great search " + seed, new OracleTest(seed).runGreatSearch());
+            due.holds("great pictures " + seed, new OracleTest(seed).runGreatPictures());
         }
         for (Map.Entry<String, Method> one : METHODS.entrySet()) {
             if (java.lang.reflect.Modifier.isPublic(one.getValue().getModifiers())) {

@@ -15,6 +15,12 @@ final class Due {
         is(what, so ? 1 : 0, 1);
     }
 
+    /** One call that is not refused: its answer, and status() behind it. */
+    void granted(KnotTable x, String call, long got, long want) {
+        is(call, got, want);
+        is("status() behind " + call, x.status(), 0);
+    }
+
     /** One call that is refused: its answer, and status() behind it. */
     void refused(KnotTable x, String call, long got, long want) {
         is(call, got, want);

@@ -83,7 +83,7 @@ public final class MovesTest {
         int twist = x.move(TWIST, 3, 2, 77);
         int wrong = x.move(TWIST, 12, 2, 0);
         long before = x.digest();
-        due.is("may", x.may(p, twist), 1);
+        due.granted(x, "may", x.may(p, twist), 1);
         due.is("nothing is done", x.digest(), before);
         due.refused(x, "nothing to undo", x.undo(p), NOT);
         due.refused(x, "no end", x.may(p, wrong), NOT);
@@ -101,7 +101,7 @@ public final class MovesTest {
         KnotTable x = new KnotTable();
         int p = House.knot(x, House.TREFOIL);
         int twist = x.move(TWIST, 3, 2, 0);
-        due.is("does", x.does(p, twist), 1);
+        due.granted(x, "does", x.does(p, twist), 1);
         due.is("crossings", x.told(p, 0), 4);
         due.is("does again", x.does(p, twist), 1);
         due.is("crossings", x.told(p, 0), 5);
@@ -120,7 +120,7 @@ public final class MovesTest {
         int p = House.knot(x, House.TREFOIL);
         int smooth = x.move(SMOOTH, 0, 0, 0);
         int change = x.move(CHANGE, 0, 0, 0);
-        due.is("undone without being done", x.undoes(p, change), 1);
+        due.granted(x, "undone without being done", x.undoes(p, change), 1);
         due.is("it is told", House.has(x, p, 0, 5, 2, 0, 3) ? 1 : 0, 1);
         due.is("it can be undone", x.undo(p), 0);
         due.refused(x, "SMOOTH", x.undoes(p, smooth), UNFIT);

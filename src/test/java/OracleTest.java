@@ -61,12 +61,13 @@ public final class OracleTest {
         long got = ask(table, name, v);
         told.add(name + Arrays.toString(v) + " = " + got);
         count(name, v, got);
-        if (got != want && !failed) {
+        boolean statusIsDue = table.status() == oracle.call("status");
+        if ((got != want || !statusIsDue) && !failed) {
             failed = true;
             for (String one : told) {
                 System.out.println("  " + one);
             }
-            System.out.println("due is " + want);
+            System.out.println("due is " + want + ", and status() " + oracle.call("status"));
         }
         return got;
     }

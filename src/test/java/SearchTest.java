@@ -308,6 +308,9 @@ public final class SearchTest {
         int e = x.picture();
         due.is("nothing is nothing", x.same(e, x.picture(), 0), 1);
         due.is("no brackets", x.count(4), work);
+        int twelve = House.kinks(x, 12);
+        due.is("one of 12 crossings is itself", x.same(twelve, x.twin(twelve), 0), 1);
+        due.is("one of 13 is not found", x.same(twelve, House.kinks(x, 13), 9), -1);
     }
 
     private static void promise44Parted() {

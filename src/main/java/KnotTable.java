@@ -1165,7 +1165,7 @@ public final class KnotTable {
             for (int n = 0; n < ENDS && regionOf[e] < 0; n++) {
                 regionOf[e] = regions;
                 length++;
-                e = nextInRegion(e);
+                e = corner(mate[e], 3);
             }
             regionLength[regions] = length;
             regions++;
@@ -2042,7 +2042,9 @@ public final class KnotTable {
             nextLook.pairUp(picture);
             nextLook.findRegions();
             target.hold(picture, nextLook);
-            seekTarget(0);
+            if (states[0].sharesMark(target) && likeness.holds(states[0].mates, target.mates, target.size)) {
+                found = 0;
+            }
         }
 
         /** Ends the looking, tells the ways if it was found; whether it was. */
@@ -2056,27 +2058,38 @@ public final class KnotTable {
             return hit;
         }
 
-        private void seekTarget(int k) {
-            if (states[k].sharesMark(target) && likeness.holds(states[k].mates, target.mates, target.size)) {
-                found = k;
-            }
-        }
-
         /** Goes up to some STEPS, or to what is looked for: how many were gone. */
         int go(int limit) {
             int gone = 0;
             for (int turn = 0; turn <= MOST_TURNS && gone < limit && found < 0; turn++) {
-                if (slot < 3 * 4 * base.size) {
-                    gone += tryWay() ? 1 : 0;
-                } else if (current + 1 < count) {
-                    enter(current + 1);
-                } else {
-                    ended = true;
-                    break;
+                if (slot >= 3 * 4 * base.size) {
+                    if (!enterNext()) {
+                        break;
+                    }
+                    continue;
+                }
+                int way = slot;
+                slot++;
+                if (!Move.seemsOpen(baseLook, way)) {
+                    continue;
+                }
+                next.take(base);
+                if (Move.takeStep(next, baseLook, way)) {
+                    gone++;
+                    keep(current, way);
                 }
             }
             steps += gone;
             return gone;
+        }
+
+        /** Goes over to the next STATE; without one the SEARCH is ENDED. */
+        private boolean enterNext() {
+            ended = current + 1 >= count;
+            if (!ended) {
+                enter(current + 1);
+            }
+            return !ended;
         }
 
         private void enter(int k) {
@@ -2084,20 +2097,6 @@ public final class KnotTable {
             slot = 0;
             states[k].pourInto(base);
             baseLook.pairUp(base);
-        }
-
-        private boolean tryWay() {
-            int way = slot;
-            slot++;
-            if (!Move.seemsOpen(baseLook, way)) {
-                return false;
-            }
-            next.take(base);
-            if (!Move.takeStep(next, baseLook, way)) {
-                return false;
-            }
-            keep(current, way);
-            return true;
         }
 
         /** Keeps what came of a STEP, if it is new; the STATE behind the last one serves as scratch. */
@@ -2120,8 +2119,8 @@ public final class KnotTable {
             fresh.parent = parent;
             fresh.lead = lead;
             count++;
-            if (aiming) {
-                seekTarget(count - 1);
+            if (aiming && fresh.sharesMark(target) && likeness.holds(fresh.mates, target.mates, target.size)) {
+                found = count - 1;
             }
         }
 

@@ -356,6 +356,11 @@ public final class MovesTest {
         due.is("from place 35 to 30", x.may(big, x.move(FLYPE, 4 * 31, 1 << 30, 0)) == 1
                 || x.may(big, x.move(FLYPE, 4 * 31 + 3, 1 << 30, 0)) == 1 ? 1 : 0, 1);
         due.refused(x, "place 31 has no bit", x.may(big, x.move(FLYPE, 4 * 32 + 3, 1, 0)), NOT);
+        int thirty = House.braid(x, 30);
+        due.is("bit 29 of 30 crossings", x.may(thirty, x.move(FLYPE, 3, 1 << 29, 0)), 1);
+        due.refused(x, "bit 30 of 30 crossings", x.may(thirty, x.move(FLYPE, 3, 1 << 29 | 1 << 30, 0)), NOT);
+        int more = House.braid(x, 31);
+        due.is("bit 30 of 31 crossings", x.may(more, x.move(FLYPE, 3, 1 << 30, 0)), 1);
     }
 
     private static void flypeThatTurnsBack() {
@@ -391,6 +396,12 @@ public final class MovesTest {
         due.is("way 0 at a kink", does(x, p, SMOOTH, 1, 0, 0), 1);
         due.is("way 1 at a kink", does(x, p, SMOOTH, 0, 1, 0), 1);
         due.is("crossings", x.told(p, 0), 0);
+        int big = House.kinks(x, 40);
+        due.is("the first of 40", does(x, big, SMOOTH, 0, 1, 0), 1);
+        due.is("the last of 39", does(x, big, SMOOTH, 38, 1, 0), 1);
+        due.is("38 are left", x.told(big, 0), 38);
+        due.is("two circles came", x.told(big, 1), 2);
+        due.is("it is whole", x.open(big), 0);
         int k = House.kinks(x, 1);
         x.loose(k, 8);
         due.refused(x, "two circles more", does(x, k, SMOOTH, 0, 1, 0), MANY);

@@ -368,6 +368,16 @@ public final class NumbersTest {
             due.is(n + " kinks", x.ofGauss(), n <= 40 ? n - 39 : NOT);
         }
         due.is("told", x.told(1, 0), 40);
+        for (int place = 39; place < 200; place += 20) {
+            x.clear();
+            for (int c = 0; c < 40; c++) {
+                x.type(c < 39 ? 4 * c : 4 * place);
+                x.type(c < 39 ? 4 * c + 2 : 4 * place + 2);
+            }
+            x.type(-1);
+            x.type(-2);
+            due.is("40 places, the last one is " + place, x.ofGauss(), place == 39 ? 2 : NOT);
+        }
     }
 
     public static void main(String[] args) {

@@ -175,6 +175,11 @@ public final class PicturesTest {
         due.refused(x, "to none", x.copy(p, 0, 0, q, 1, 9, 1), LACKING);
         due.refused(x, "from none", x.copy(q, 1, 9, p, 0, 0, 1), LACKING);
         due.refused(x, "from none, beyond", x.copy(q, 1, 9, p, 1, 0, 1), BEYOND);
+        x.row(q, 1, 0);
+        due.is("none from a row of none", x.copy(q, 1, 0, p, 0, 2, 0), 1);
+        due.is("none to a row of none", x.copy(p, 0, 2, q, 1, 0, 0), 1);
+        due.refused(x, "one from a row of none", x.copy(q, 1, 0, p, 0, 0, 1), BEYOND);
+        due.refused(x, "one to a row of none", x.copy(p, 0, 0, q, 1, 0, 1), BEYOND);
         x.row(q, 1, 2);
         due.refused(x, "all or none", x.copy(p, 0, 0, q, 1, 0, 3), BEYOND);
         due.is("end", x.end(q, 1, 0), -1);
@@ -234,6 +239,11 @@ public final class PicturesTest {
         x.put(p, 2, 3, 3);
         x.open(p);
         due.is("where of 3, at crossing 1 and 2", x.where(), 1);
+        int first = x.picture();
+        x.crossing(first, 7, 1, 1, 2);
+        x.crossing(first, 2, 3, 3, 8);
+        x.open(first);
+        due.is("where of 3, at END 0 alone", x.where(), 0);
         x.put(p, 1, 3, -1);
         x.put(p, 2, 0, -1);
         x.open(p);
@@ -289,6 +299,12 @@ public final class PicturesTest {
                 && House.has(x, p, 1, 4, 1, 3, 0) && House.has(x, p, 2, 2, 5, 1, 4));
         due.is("its writhe", x.told(p, 5), -3);
         due.is("mirror of nothing", x.mirror(x.picture()), 1);
+        int big = House.kinks(x, 40);
+        due.is("mirror of 40", x.mirror(big), 1);
+        due.is("its writhe", x.told(big, 5), 40);
+        due.is("turn of 40", x.turn(big), 1);
+        due.is("its writhe", x.told(big, 5), 40);
+        due.is("undo of 40", x.undo(big), 1);
         due.refused(x, "mirror(7)", x.mirror(7), BAD);
         x.put(p, 0, 0, 50);
         due.refused(x, "mirror of an open one", x.mirror(p), OPEN);

@@ -229,6 +229,10 @@ public final class SearchTest {
         due.is("a circle and one of 13", x.same(c, thirteen, 9), 0);
         due.is("parted", x.parted(), 6);
         due.is("two brackets", x.count(4), work + 32 + 1 + 8192);
+        int fourteen = x.twin(thirteen);
+        x.does(fourteen, x.move(0, 0, 0, 0));
+        due.is("a circle and one of 14", x.same(c, fourteen, 9), 0);
+        due.is("parted", x.parted(), 6);
         due.refused(x, "no search began", x.searched(1), NOT);
         due.refused(x, "no result came", x.power(0), NOT);
         due.refused(x, "13 crossings", x.same(thirteen, c, 9), GREAT);

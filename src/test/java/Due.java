@@ -27,6 +27,10 @@ final class Due {
         is("status() behind " + call, x.status(), want);
     }
 
+    int wrong() {
+        return wrong;
+    }
+
     void end(String test) {
         System.out.println(test + ": " + asked + " answers, " + wrong + " wrong");
         if (wrong != 0) {

@@ -98,7 +98,7 @@ public final class NumbersTest {
         for (int k = 0; k < powersAndNumbers.length; k += 2) {
             due.is(of + " at " + powersAndNumbers[k], x.at(powersAndNumbers[k]), powersAndNumbers[k + 1]);
         }
-        for (int power = -200; power <= 200; power++) {
+        for (int power = x.power(0); power <= x.power(1); power++) {
             seen += x.at(power) != 0 ? 1 : 0;
         }
         due.is(of + ": numbers", seen, powersAndNumbers.length / 2);
@@ -369,14 +369,14 @@ public final class NumbersTest {
         }
         due.is("told", x.told(1, 0), 40);
         for (int place = 39; place < 200; place += 20) {
-            x.clear();
+            x = new KnotTable();
             for (int c = 0; c < 40; c++) {
                 x.type(c < 39 ? 4 * c : 4 * place);
                 x.type(c < 39 ? 4 * c + 2 : 4 * place + 2);
             }
             x.type(-1);
             x.type(-2);
-            due.is("40 places, the last one is " + place, x.ofGauss(), place == 39 ? 2 : NOT);
+            due.is("40 places, the last one is " + place, x.ofGauss(), place == 39 ? 0 : NOT);
         }
     }
 

@@ -391,6 +391,25 @@ final class Oracle {
     private int work;
     private int status;
 
+    private final int mostStates;
+
+    Oracle() {
+        this(100);
+    }
+
+    /** With another limit of STATES than the document's: so it tells how many there would be. */
+    Oracle(int mostStates) {
+        this.mostStates = mostStates;
+    }
+
+    int looseOfState(int k) {
+        return states.get(k).pic.loose;
+    }
+
+    int[][] rowsOfState(int k) {
+        return states.get(k).pic.rows.toArray(new int[0][]);
+    }
+
     // ---- how any call is answered: by its name and numbers
 
     long call(String name, long... n) {
@@ -1080,7 +1099,7 @@ final class Oracle {
                 return false;
             }
         }
-        if (states.size() >= 100) {
+        if (states.size() >= mostStates) {
             return false;
         }
         State state = new State();

@@ -27,7 +27,7 @@ public final class RoomTest {
         int m = x.move(0, 3, 1, 0);
         int u = x.move(5, 2, 0, 0);
         int c = House.knot(x, House.CIRCLE);
-        for (int k = 0; k < 50; k++) {
+        for (int k = 0; k < 47; k++) {
             x.search(p, 5000);
             x.fewer();
             x.same(p, c, 5000);

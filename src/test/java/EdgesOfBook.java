@@ -1,3 +1,7 @@
+import java.util.ArrayList;
+import java.util.List;
+import java.util.function.ToLongFunction;
+
 /** Promises 47 to 52: the book, and what is told. */
 final class EdgesOfBook {
     private static final int BAD = Run.BAD, FULL = Run.FULL, OPEN = Run.OPEN, NOT = Run.NOT, EMPTY = Run.EMPTY;
@@ -288,24 +292,73 @@ final class EdgesOfBook {
             x.way(k);
             x.hold(x.status() == NOT, "way() leaves it");
         }
-        // each other call does not, when it is granted
-        for (int k = 0; k < 12; k++) {
+        for (ToLongFunction<Run> call : grantedCalls()) {
             x.no(x.open(99), BAD);
-            switch (k) {
-                case 0: x.is(x.open(p), 0); break;
-                case 1: x.is(x.clear(), 0); break;
-                case 2: x.is(x.type(-2), 1); break;
-                case 3: x.is(x.gauss(p), 4); break;
-                case 4: x.is(x.polynomial(p), 1); break;
-                case 5: x.is(x.power(0), 0); break;
-                case 6: x.is(x.determinant(p), 1); break;
-                case 7: x.is(x.name(p), 0); break;
-                case 8: x.is(x.search(p, 0), 0); break;
-                case 9: x.is(x.searched(0), 0); break;
-                case 10: x.is(x.goOn(0), 0); break;
-                default: x.hold(x.digest() != 0 && x.status() == 0, "digest() is a call, too"); break;
-            }
+            call.applyAsLong(x);
+            x.hold(x.status() == 0, "behind a call that is not refused status() is 0");
         }
+    }
+
+    /** Each call but the nine, and each of its answers that is no refusal, on one PICTURE of one kink. */
+    private static List<ToLongFunction<Run>> grantedCalls() {
+        List<ToLongFunction<Run>> all = new ArrayList<>();
+        for (int k = 0; k < 6; k++) {
+            int what = k;
+            all.add(x -> x.told(0, what));
+            all.add(x -> x.move(what, 0, 0, 0));
+            all.add(x -> x.tells(what, 4));
+            all.add(x -> x.tells(what, 5));
+            all.add(x -> x.tells(0, what));
+        }
+        all.add(x -> x.picture());
+        all.add(x -> x.twin(0));
+        all.add(x -> x.join(0, 0, 0, 0));
+        all.add(x -> x.loose(1, 1));
+        all.add(x -> x.crossing(0, 5, 6, 6, 5));
+        all.add(x -> x.row(0, 0, 4));
+        all.add(x -> x.put(0, 0, 0, 0));
+        all.add(x -> x.end(0, 0, 0));
+        all.add(x -> x.copy(0, 0, 0, 0, 0, 0, 4));
+        all.add(x -> x.open(0));
+        all.add(x -> x.mirror(2));
+        all.add(x -> x.turn(2));
+        all.add(x -> x.undo(2));
+        all.add(x -> x.sign(2, 0));
+        all.add(x -> x.pieceOf(2, 0));
+        all.add(x -> x.linking(0, 0, 1));
+        all.add(x -> x.colours(0, 3));
+        all.add(x -> x.bracket(0));
+        all.add(x -> x.polynomial(0));
+        all.add(x -> x.power(0));
+        all.add(x -> x.power(1));
+        all.add(x -> x.determinant(0));
+        all.add(x -> x.gauss(2));
+        all.add(x -> x.ofGauss());
+        all.add(x -> x.type(5));
+        all.add(x -> x.clear());
+        all.add(x -> x.as(1, 0));
+        all.add(x -> x.may(2, 0));
+        all.add(x -> x.does(2, 0));
+        all.add(x -> x.undoes(2, 5));
+        all.add(x -> x.like(0, 0));
+        all.add(x -> x.like(0, 1));
+        all.add(x -> x.like(0, 3));
+        all.add(x -> x.search(0, 1));
+        all.add(x -> x.goOn(1));
+        for (int k = 0; k < 4; k++) {
+            int what = k;
+            all.add(x -> x.searched(what));
+        }
+        all.add(x -> x.fewer());
+        all.add(x -> x.same(1, 2, 0));
+        all.add(x -> x.same(1, 1, 0));
+        all.add(x -> x.same(0, 1, 0));
+        all.add(x -> x.check(1));
+        all.add(x -> x.book(1, 5));
+        all.add(x -> x.name(1));
+        all.add(x -> x.name(0));
+        all.add(x -> x.digest());
+        return all;
     }
 
     @Sentence(of = "Promise 51", says = "(BAD, FULL, -10 less a FINDING); 0: it was not.")

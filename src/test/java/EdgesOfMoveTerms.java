@@ -3,10 +3,6 @@ final class EdgesOfMoveTerms {
     private static final int BAD = Run.BAD, FULL = Run.FULL, UNFIT = Run.UNFIT, NOT = Run.NOT, MANY = Run.MANY;
     private static final int TWIST = Run.TWIST, POKE = Run.POKE, SLIDE = Run.SLIDE, FLYPE = Run.FLYPE;
     private static final int SMOOTH = Run.SMOOTH, CHANGE = Run.CHANGE;
-    private static final int[][] TREFOIL = {{2, 0, 3, 5}, {0, 4, 1, 3}, {4, 2, 5, 1}};
-    private static final int[][] FIGURE_EIGHT = {{4, 0, 5, 7}, {0, 4, 1, 3}, {6, 1, 7, 2}, {2, 5, 3, 6}};
-    /** A trefoil, one strand of it laid under another by POKE: the REGION of END 0 can be slid. */
-    private static final int[][] POKED = {{2, 0, 3, 5}, {0, 9, 1, 3}, {4, 7, 5, 1}, {2, 8, 6, 9}, {7, 4, 6, 8}};
 
     private EdgesOfMoveTerms() {
     }
@@ -161,7 +157,7 @@ final class EdgesOfMoveTerms {
     @Sentence(of = "Terms 3", says = "1 POKE (a TWIST, too): ENDS a, b of one REGION with unlike ARCS;")
     static void pokeEnds() {
         Run x = new Run();
-        int p = x.rows(TREFOIL);
+        int p = x.rows(Run.TREFOIL);
         int m = x.move(POKE, 0, 4, 0);
         x.is(x.as(m, TWIST), 1);
         x.is(x.as(m, POKE), 1);
@@ -181,7 +177,7 @@ final class EdgesOfMoveTerms {
             + " OTHER END gets q, b's OTHER END s; two new CROSSINGS: over: r p s x and y p r q; under: x r p s and q y p r.")
     static void pokeRows() {
         Run x = new Run();
-        int p = x.rows(TREFOIL);
+        int p = x.rows(Run.TREFOIL);
         x.is(x.does(p, POKE, 0, 8, 0), 1);
         x.looks(p, 0, "2 0 3 5", "0 9 1 3", "4 7 5 1", "8 6 9 2", "4 6 8 7");
         x.is(x.open(p), 0);
@@ -200,7 +196,7 @@ final class EdgesOfMoveTerms {
     @Sentence(of = "Terms 3", says = "NOT: no such ENDS, not so, another c.")
     static void pokeNot() {
         Run x = new Run();
-        int p = x.rows(TREFOIL);
+        int p = x.rows(Run.TREFOIL);
         int[] none = {-2, -1, 12, 13, Integer.MIN_VALUE, Integer.MAX_VALUE};
         for (int e : none) {
             x.no(x.may(p, POKE, e, 0, 0), NOT);
@@ -229,7 +225,7 @@ final class EdgesOfMoveTerms {
             x.no(x.undoes(k, POKE, a, 0, 0), NOT);
         }
         // three ENDS, though the ARC of END 0 goes under at both, and that of END 15 over
-        int s = x.rows(POKED);
+        int s = x.rows(Run.POKED);
         x.no(x.undoes(s, POKE, 0, 0, 0), NOT);
         x.no(x.undoes(s, POKE, 15, 0, 0), NOT);
         // two ENDS of two CROSSINGS, but linked
@@ -250,7 +246,7 @@ final class EdgesOfMoveTerms {
             + " that of (c, i + 3) with that of (x, y + 1), as they are then; both CROSSINGS are taken out. Else NOT.")
     static void pokeUndoneRows() {
         Run x = new Run();
-        int p = x.rows(TREFOIL);
+        int p = x.rows(Run.TREFOIL);
         x.does(p, POKE, 0, 8, 0);
         x.is(x.undoes(p, POKE, 17, 99, 99), 1);
         x.looks(p, 0, "7 0 3 5", "0 4 1 3", "4 7 5 1");
@@ -262,7 +258,7 @@ final class EdgesOfMoveTerms {
         x.is(x.undoes(p, POKE, 8, 0, 0), 1);
         x.looks(p, 0, "2 0 3 5", "0 9 1 3", "5 1 9 2");
         // two circles, one on the other: both JOINED pairs are one ARC
-        int u = x.rows(new int[] {1, 2, 0, 3}, new int[] {0, 2, 1, 3});
+        int u = x.rows(Run.UNLINK);
         x.loose(u, 7);
         x.is(x.undoes(u, POKE, 0, 0, 0), 1);
         x.looks(u, 9);
@@ -306,7 +302,7 @@ final class EdgesOfMoveTerms {
             + " at both ENDS:")
     static void slideOrNot() {
         Run x = new Run();
-        int s = x.rows(POKED);
+        int s = x.rows(Run.POKED);
         for (int a = -1; a <= 20; a++) {
             boolean triangle = a == 0 || a == 4 || a == 15;
             answer(x, x.may(s, SLIDE, a, 77, 77), triangle ? 1 : NOT);
@@ -342,7 +338,7 @@ final class EdgesOfMoveTerms {
         int[] ends = {0, 4, 15};
         for (int a : ends) {
             Run x = new Run();
-            int s = x.rows(POKED);
+            int s = x.rows(Run.POKED);
             x.is(x.does(s, SLIDE, a, 0, 0), 1);
             x.looks(s, 0, "6 1 2 0", "5 8 0 9", "4 7 5 1", "3 9 2 3", "7 4 6 8");
             x.is(x.open(s), 0);
@@ -352,7 +348,7 @@ final class EdgesOfMoveTerms {
     @Sentence(of = "Terms 3", says = "Else NOT. UNDONE: the same at (c, i + 2), a being (c, i).")
     static void slideUndone() {
         Run x = new Run();
-        int s = x.rows(POKED);
+        int s = x.rows(Run.POKED);
         int[] ends = {0, 4, 15};
         for (int a : ends) {
             int across = a / 4 * 4 + (a + 2) % 4;
@@ -492,7 +488,7 @@ final class EdgesOfMoveTerms {
             + " T is turned over: of e0 e1 e2 e3 it becomes e1 e0 e3 e2.")
     static void flypeRows() {
         Run x = new Run();
-        int p = x.rows(FIGURE_EIGHT);
+        int p = x.rows(Run.FIGURE_EIGHT);
         x.is(x.does(p, FLYPE, 2, 4 | 8, 0), 1);
         x.looks(p, 0, "5 7 3 1", "0 4 1 3", "7 6 2 0", "4 2 6 5");
         x.is(x.open(p), 0);
@@ -509,7 +505,7 @@ final class EdgesOfMoveTerms {
     @Sentence(of = "Terms 3", says = "UNDONE: the same at (c, i + 2).")
     static void flypeUndone() {
         Run x = new Run();
-        int p = x.rows(FIGURE_EIGHT);
+        int p = x.rows(Run.FIGURE_EIGHT);
         x.does(p, FLYPE, 2, 4 | 8, 0);
         x.is(x.undoes(p, FLYPE, 2, 4 | 8, 0), 1);
         x.looks(p, 0, "4 0 5 7", "0 4 1 3", "6 1 7 2", "2 5 3 6");
@@ -525,7 +521,7 @@ final class EdgesOfMoveTerms {
             + " those of 0 with 3, then 1 with 2 (as they are then); it is taken out.")
     static void smoothRows() {
         Run x = new Run();
-        int t = x.rows(TREFOIL);
+        int t = x.rows(Run.TREFOIL);
         x.is(x.does(t, SMOOTH, 0, 0, 77), 1);
         x.looks(t, 0, "2 4 1 3", "4 2 3 1");
         x.undo(t);
@@ -574,7 +570,7 @@ final class EdgesOfMoveTerms {
         x.is(x.as(m, SMOOTH), 1);
         x.is(x.as(m, CHANGE), 1);
         x.no(x.as(m, FLYPE), UNFIT);
-        int t = x.rows(TREFOIL);
+        int t = x.rows(Run.TREFOIL);
         String[] turned = {"4 1 3 0", "1 3 0 4", "3 0 4 1", "0 4 1 3"};
         for (String row : turned) {
             x.is(x.does(t, m), 1);
@@ -586,7 +582,7 @@ final class EdgesOfMoveTerms {
     @Sentence(of = "Terms 3", says = "NOT: none such. UNDONE: e3 e0 e1 e2.")
     static void changeNotAndUndone() {
         Run x = new Run();
-        int t = x.rows(TREFOIL);
+        int t = x.rows(Run.TREFOIL);
         for (int c = -2; c <= 4; c++) {
             answer(x, x.may(t, CHANGE, c, 0, 0), c >= 0 && c < 3 ? 1 : NOT);
         }

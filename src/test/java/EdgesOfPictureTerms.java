@@ -145,7 +145,7 @@ final class EdgesOfPictureTerms {
         for (int k = 0; k < 4; k++) {
             x.is(x.item(k), second[k]);
         }
-        int t = x.rows(new int[] {2, 0, 3, 5}, new int[] {0, 4, 1, 3}, new int[] {4, 2, 5, 1});
+        int t = x.rows(Run.TREFOIL);
         x.is(x.open(t), 0);
         int withTheClock = x.rows(new int[] {2, 5, 3, 0}, new int[] {0, 4, 1, 3}, new int[] {4, 2, 5, 1});
         x.is(x.open(withTheClock), 4);
@@ -289,7 +289,7 @@ final class EdgesOfPictureTerms {
             + " those that come round are a REGION.")
     static void regions() {
         Run x = new Run();
-        int t = x.rows(new int[] {2, 0, 3, 5}, new int[] {0, 4, 1, 3}, new int[] {4, 2, 5, 1});
+        int t = x.rows(Run.TREFOIL);
         x.is(x.told(t, 3), 5);
         for (int b = 0; b < 12; b++) {
             int answer = x.may(t, Run.POKE, 0, b, 0);

@@ -2,7 +2,6 @@
 final class EdgesOfPictures {
     private static final int NONE = Run.NONE, BAD = Run.BAD, FULL = Run.FULL, LACKING = Run.LACKING;
     private static final int BEYOND = Run.BEYOND, OPEN = Run.OPEN, NOT = Run.NOT, MANY = Run.MANY;
-    private static final int[][] TREFOIL = {{2, 0, 3, 5}, {0, 4, 1, 3}, {4, 2, 5, 1}};
 
     private EdgesOfPictures() {
     }
@@ -594,7 +593,7 @@ final class EdgesOfPictures {
     @Sentence(of = "Promise 12", says = "Its CROSSINGS are all changed (as by CHANGE): 1.")
     static void mirrored() {
         Run x = new Run();
-        int p = x.rows(TREFOIL);
+        int p = x.rows(Run.TREFOIL);
         x.loose(p, 2);
         x.is(x.mirror(p), 1);
         x.looks(p, 2, "0 3 5 2", "4 1 3 0", "2 5 1 4");
@@ -626,7 +625,7 @@ final class EdgesOfPictures {
     @Sentence(of = "Promise 13", says = "It is seen from behind (each ROW becomes e1 e0 e3 e2): 1.")
     static void turned() {
         Run x = new Run();
-        int p = x.rows(TREFOIL);
+        int p = x.rows(Run.TREFOIL);
         x.loose(p, 2);
         x.is(x.turn(p), 1);
         x.looks(p, 2, "0 2 5 3", "4 0 3 1", "2 4 1 5");
@@ -659,7 +658,7 @@ final class EdgesOfPictures {
     static void joinOfTwo() {
         Run x = new Run();
         int p = x.kinks(1);
-        int q = x.rows(TREFOIL);
+        int q = x.rows(Run.TREFOIL);
         x.is(x.join(p, 0, q, 11), 2);
         x.is(x.told(2, 0), 4);
         x.is(x.join(p, 3, p, 0), 3);
@@ -682,7 +681,7 @@ final class EdgesOfPictures {
     static void joinArcs() {
         Run x = new Run();
         // q's arcs 50 and 3 are met so, and become 6 and 7
-        int p = x.rows(TREFOIL);
+        int p = x.rows(Run.TREFOIL);
         int q = x.rows(new int[] {50, 3, 3, 50});
         int j = x.join(p, 0, q, 3);
         x.looks(j, 0, "2 0 3 5", "0 4 1 3", "4 8 5 1", "8 7 7 2");

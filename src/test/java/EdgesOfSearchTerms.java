@@ -1,10 +1,6 @@
 /** Part 4 of the terms: what is LIKE what, and how far a SEARCH goes. */
 final class EdgesOfSearchTerms {
     private static final int NONE = Run.NONE, NOT = Run.NOT;
-    /** Two circles, the one on the other: POKE can be undone at each END. */
-    private static final int[][] UNLINK = {{1, 2, 0, 3}, {0, 2, 1, 3}};
-    /** A trefoil, one strand of it laid under another: the REGION of END 0 can be slid. */
-    private static final int[][] POKED = {{2, 0, 3, 5}, {0, 9, 1, 3}, {4, 7, 5, 1}, {2, 8, 6, 9}, {7, 4, 6, 8}};
     /** Two circles with six kinks each: 12 CROSSINGS, and far more STATES than are kept. */
     private static final int[][] MANY_STATES = {{0, 2, 3, 0, 1, 2}, {0, 0, 3, 2, 1, 1}};
     /** Two circles with four kinks each, or five and three, of these sorts: they have 99, 100, 101 STATES. */
@@ -49,12 +45,11 @@ final class EdgesOfSearchTerms {
     static void likeByTurningBy0Or2() {
         Run x = new Run();
         int[][] kink = {{0, 1, 1, 0}};
-        int[][] trefoil = {{2, 0, 3, 5}, {0, 4, 1, 3}, {4, 2, 5, 1}};
         int k = x.rows(kink);
-        int t = x.rows(trefoil);
+        int t = x.rows(Run.TREFOIL);
         for (int by = 0; by < 4; by++) {
             x.is(x.like(k, turnedBy(x, by, kink)), by % 2 == 0 ? 1 : 0);
-            x.is(x.like(t, turnedBy(x, by, trefoil)), by % 2 == 0 ? 1 : 0);
+            x.is(x.like(t, turnedBy(x, by, Run.TREFOIL)), by % 2 == 0 ? 1 : 0);
         }
         // another order, arcs up to 99
         int r = x.rows(new int[] {95, 97, 94, 98}, new int[] {97, 99, 96, 94}, new int[] {99, 95, 98, 96});
@@ -99,14 +94,14 @@ final class EdgesOfSearchTerms {
         // ten circles would come: it may not be done
         x.loose(k, 9);
         x.is(x.search(k, 5000), 0);
-        int u = x.rows(UNLINK);
+        int u = x.rows(Run.UNLINK);
         x.is(x.search(u, 5000), 8);
         x.loose(u, 7);
         x.is(x.search(u, 5000), 8);
         x.loose(u, 8);
         x.is(x.search(u, 5000), 0);
         // the first STEP of all is a SLIDE at END 0, which none of the kinds ahead of it can be
-        int s = x.rows(POKED);
+        int s = x.rows(Run.POKED);
         int slid = x.twin(s);
         x.does(slid, Run.SLIDE, 0, 0, 0);
         x.is(x.same(s, slid, 0), -1);
@@ -131,15 +126,15 @@ final class EdgesOfSearchTerms {
         x.is(x.searched(1), 2);
         x.is(x.search(x.kinks(12), 5000), 79);
         x.is(x.searched(1), 13);
-        x.is(x.search(x.rows(UNLINK), 5000), 8);
+        x.is(x.search(x.rows(Run.UNLINK), 5000), 8);
         x.is(x.searched(1), 2);
         // kinks of two SIGNS on two circles: one or the other goes first
         int p = x.rows(new int[] {0, 1, 1, 0}, new int[] {2, 2, 3, 3});
         x.is(x.search(p, 5000), 8);
         x.is(x.searched(1), 4);
         // what is slid and slid back is LIKE the first STATE
-        Oracle oracle = searchedBy(100, POKED);
-        x.is(x.search(x.rows(POKED), 5000), oracle.call("searched", 3));
+        Oracle oracle = searchedBy(100, Run.POKED);
+        x.is(x.search(x.rows(Run.POKED), 5000), oracle.call("searched", 3));
         x.is(x.searched(1), oracle.call("searched", 1));
     }
 
@@ -222,7 +217,7 @@ final class EdgesOfSearchTerms {
         x.mirror(k);
         x.is(x.same(k, c, 9), 1);
         x.is(x.way(0), 0);
-        int u = x.rows(UNLINK);
+        int u = x.rows(Run.UNLINK);
         x.is(x.same(u, x.circles(2), 9), 1);
         x.is(x.way(0), 1);
         // twelve kinks, taken out one by one; a trefoil's kink at the last CROSSING

@@ -12,6 +12,12 @@ final class Run {
     static final int TWIST = 0, POKE = 1, SLIDE = 2, FLYPE = 3, SMOOTH = 4, CHANGE = 5;
     static final int MOST_CALLS = 512, MOST_TOLD = 16;
     static final int[] FAR = {Integer.MIN_VALUE, Integer.MIN_VALUE + 1, Integer.MAX_VALUE - 1, Integer.MAX_VALUE};
+    static final int[][] TREFOIL = {{2, 0, 3, 5}, {0, 4, 1, 3}, {4, 2, 5, 1}};
+    static final int[][] FIGURE_EIGHT = {{4, 0, 5, 7}, {0, 4, 1, 3}, {6, 1, 7, 2}, {2, 5, 3, 6}};
+    /** The trefoil, one strand of it laid under another by POKE: the REGION of END 0 can be slid. */
+    static final int[][] POKED = {{2, 0, 3, 5}, {0, 9, 1, 3}, {4, 7, 5, 1}, {2, 8, 6, 9}, {7, 4, 6, 8}};
+    /** Two circles, the one on the other: POKE can be undone at each END. */
+    static final int[][] UNLINK = {{1, 2, 0, 3}, {0, 2, 1, 3}};
     static final Due due = new Due();
     private static final List<String> LEAVE_STATUS = Arrays.asList("status", "findings", "trace", "where", "parted",
             "count", "item", "at", "way");

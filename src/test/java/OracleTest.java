@@ -308,7 +308,7 @@ public final class OracleTest {
         typeRow(KNOTS[4 + upTo(6)]);
         for (int k = 0; k < 40; k++) {
             int n = crossingsOf(0);
-            if (n >= 12) {
+            if (n >= 12 || n < 1) {
                 break;
             }
             int a = upTo(4 * n);

@@ -7,6 +7,7 @@ import java.nio.file.Files;
 import java.nio.file.Path;
 import java.util.Arrays;
 import java.util.HashSet;
+import java.util.List;
 import java.util.Set;
 import java.util.TreeSet;
 import java.util.regex.Matcher;
@@ -121,10 +122,38 @@ public final class FaceTest {
         }
     }
 
+    /** Rules 9 and 11: each loop counts against a bound, and methods stay short. */
+    private static void shapes() throws IOException {
+        List<String> lines = Files.readAllLines(PROGRAM);
+        Pattern loop = Pattern.compile("\\s*for \\(int \\w+ = [^;]+; [^;]*[<>][^;]*; \\w+(\\+\\+|--| \\+= \\d+)\\) \\{");
+        Pattern head = Pattern.compile("( {4}| {8})(?=\\w)(?!if\\b|for\\b|switch\\b|return\\b)[\\w\\[\\] ]+\\([^()]*\\) \\{");
+        int methods = 0;
+        int begun = 0;
+        String end = "none";
+        for (int k = 0; k < lines.size(); k++) {
+            String line = lines.get(k);
+            if (line.matches("\\s*(for|while|do)\\b.*")) {
+                due.holds("a loop that counts: " + line.trim(), loop.matcher(line).matches());
+            }
+            Matcher method = head.matcher(line);
+            if (method.matches()) {
+                methods++;
+                begun = k;
+                end = method.group(1) + "}";
+            }
+            if (line.equals(end)) {
+                due.holds(lines.get(begun).trim() + " has some sixty lines at most", k - begun < 60);
+                end = "none";
+            }
+        }
+        due.holds("methods were seen: " + methods, methods > 150);
+    }
+
     public static void main(String[] args) throws IOException {
         members();
         classesInside();
         words();
+        shapes();
         due.end("FaceTest");
     }
 }
